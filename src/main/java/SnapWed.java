@@ -513,7 +513,7 @@ public final class SnapWed {
         void open() {
             size = 0;
             int next = 0;
-            while (next < length) {
+            for (int i = 0; i < TAPE_SIGNS && next < length; i++) {
                 next = signs[next] == ' ' || signs[next] == '\n' ? next + 1 : cut(next);
             }
             addToken(Token.END, length, 0);
