@@ -837,18 +837,19 @@ public final class SnapWed {
         private boolean perform(int line, Province land, Scene stage) {
             int one = first[line];
             int other = second[line];
+            if (verb[line] == Token.WALK) {
+                return stage.walkTo(one, other);
+            }
+            if (verb[line] == Token.PART) {
+                return stage.separate(land, one, other) != NONE;
+            }
+            if (verb[line] == Token.KEEP) {
+                return stage.grant(one, other);
+            }
             if (verb[line] == Token.MOMENT) {
                 stage.passMoment(land);
-            } else if (verb[line] == Token.SAY) {
-                stage.toSay[one] = other;
-            } else if (verb[line] == Token.HUSH) {
-                stage.toSay[one] = NONE;
-            } else if (verb[line] == Token.WALK) {
-                return stage.walkTo(one, other);
-            } else if (verb[line] == Token.PART) {
-                return stage.areWed(one, other) && stage.separate(land, one, other) >= 0;
             } else {
-                return stage.grant(one, other);
+                stage.toSay[one] = verb[line] == Token.SAY ? other : NONE;
             }
             return true;
         }
@@ -1268,7 +1269,11 @@ public final class SnapWed {
             return Math.max(0, Math.min(MOST_PAID, worthOf(land.parts, land, one, other)));
         }
 
+        /** What is paid, or NONE if they are not wed. */
         int separate(Province land, int one, int other) {
+            if (!areWed(one, other)) {
+                return NONE;
+            }
             int price = partingPrice(land, one, other);
             wed &= ~pairBit(one, other);
             paid += price;

@@ -18,6 +18,7 @@ public final class FaultsTest {
         tooMany();
         days();
         reading();
+        readingAgain();
         Check.end("FaultsTest");
     }
 
@@ -44,6 +45,10 @@ public final class FaultsTest {
         province(0, "");
         province(0, " \n ");
         province(0, "word abcdefgh ;");
+        province(0, "word azazazaz ;");
+        province(0, "word z;");
+        province(1, "word ^{;");
+        province(1, "word ^`;");
         province(0, "word\nabcdefgh;place p;");
         province(1, "word ^abcdefghi ;");
         province(1, "^wordword a;");
@@ -145,6 +150,7 @@ public final class FaultsTest {
         afterLand(2, "likes aa ^cc 1;");
         afterLand(3, "likes aa bb 0;likes aa ^bb 0;");
         afterLand(3, "likes aa bb 5;likes bb aa 0;likes bb ^aa 0;");
+        afterLand(3, "person cc plain at pp shy 0;likes aa bb 1;likes aa cc 1;likes aa ^bb 1;");
         afterLand(4, "likes aa bb ^10;");
         afterLand(1, "likes aa bb ^cc;");
         afterLand(1, "likes aa bb 1^");
@@ -156,6 +162,7 @@ public final class FaultsTest {
         afterLand(3, "kept aa ^aa;");
         afterLand(3, "kept aa bb;kept aa ^bb;");
         afterLand(3, "kept aa bb;kept bb ^aa;");
+        afterLand(3, "person cc plain at pp shy 0;kept aa bb;kept aa cc;kept bb ^aa;");
         afterLand(2, "kept ^cc aa;");
         afterLand(2, "kept aa ^pp;");
         afterLand(1, "kept aa bb ^1;");
@@ -299,5 +306,35 @@ public final class FaultsTest {
         Check.due("an empty day has no line", x.count(7), 0);
         Check.due("empty tape", x.province(), 0);
         Check.due("an empty province", x.count(0), 0);
+    }
+
+    /** Nothing of an older province is left in a newer one, and in the one behind that. */
+    private static void readingAgain() {
+        SnapWed x = new SnapWed();
+        String laws = "says aa ww 3;likes aa bb 4;kept aa bb;counts 0;parts 9;";
+        for (int i = 0; i < 3; i++) {
+            Check.due("told", Check.province(x, LAND + laws), 0);
+            Check.due("kept", x.count(5), 1);
+        }
+        for (int i = 0; i < 3; i++) {
+            Check.due("less told", Check.province(x, LAND), 0);
+            Check.due("odds", x.odds(0, 0), 0);
+            Check.due("liking", x.likes(0, 1), 0);
+            Check.due("kept", x.count(5), 0);
+            x.say(0, 0);
+            x.say(1, 0);
+            Check.due("all counts", x.moment(), 1);
+            Check.due("parting costs 1", x.part(0, 1), 1);
+        }
+        Check.due("each so once, again", Check.province(x, LAND + laws), 0);
+        Check.due("each so once, again", Check.province(x, LAND + laws), 0);
+        for (int i = 0; i < 3; i++) {
+            Check.due("nothing told", x.province(), 0);
+            for (int what = 0; what <= 10; what++) {
+                Check.due("count " + what, x.count(what), 0);
+            }
+        }
+        Check.due("all names are free", Check.province(x, "word aa;word pp;place ww;"), 0);
+        Check.due("places anew", x.count(1), 1);
     }
 }

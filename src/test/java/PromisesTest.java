@@ -335,6 +335,11 @@ public final class PromisesTest {
         Check.due("and as left as or", price("parts 1 or 1 and 0;", likes), 0);
         Check.due("and", price("parts 5 and 7;", likes), 1);
         Check.due("or", price("parts 0 or 7;", likes), 1);
+        Check.due("or", price("parts 7 or 0;", likes), 1);
+        Check.due("or", price("parts 0 or 0;", likes), 0);
+        Check.due("or of what is below 0", price("parts 0 or 0 - 1;", likes), 1);
+        Check.due("and", price("parts 0 and 1;", likes), 0);
+        Check.due("and", price("parts 1 and 0;", likes), 0);
         Check.due("not", price("parts not 7;", likes), 0);
         Check.due("not 0", price("parts not 0;", likes), 1);
         Check.due("not binds a part", price("parts not 0 + 5;", likes), 6);
@@ -478,12 +483,21 @@ public final class PromisesTest {
         Check.due("they have one from the begin", x.judged(0), 0);
         Check.day(x, "say a w;say b w;hush b;say b v;say c w;moment;");
         Check.due("the last say counts", x.judged(2), 0b10);
+        Check.day(x, "say a w;say b w;hush b;moment;");
+        Check.due("hushed", x.judged(2), 0);
+        Check.day(x, "keep a b;keep a c;keep b c;say a w;say b w;say c w;moment;keep b a;");
+        Check.due("all are kept", x.judged(2), 0);
+        Check.due("but the last", x.judged(0), 7);
         Check.day(x, "say a w;say b w;say c w;moment;part a b;part a c;part b c;moment;");
         Check.due("behind the moment", x.judged(1), 3);
         Check.due("none at last", x.judged(2), 0);
         for (int what : new int[] {-1, 3, MIN, MAX}) {
             Check.due("what", x.judged(what), -2);
         }
+        SnapWed free = Check.in(TOWN + "parts 0;");
+        Check.day(free, "say a w;say b w;moment;part b a;part a b;");
+        Check.due("parted for nothing, but not twice", free.judged(0), 4);
+        Check.due("none at last", free.judged(2), 0);
         Check.due("nothing paid", x.count(6), 0);
     }
 
@@ -595,6 +609,13 @@ public final class PromisesTest {
         Check.due("1 of 361 and so", rarer.chance(0, 2), 2770);
         Check.due("not by 200", rarer.half(0, 2), -1);
         Check.due("1 of 190", rarer.half(1, 2), 132);
+        String words = "word w;word v;word u;word t;place p;person a plain at p shy 9;person b plain at p shy 9;";
+        SnapWed latest = Check.in(words + "says a w 1;says a v 7;says b w 1;says b u 7;");
+        Check.due("1 of 289", latest.chance(0, 1), 3460);
+        Check.due("by 200", latest.half(0, 1), 200);
+        SnapWed later = Check.in(words + "says a w 1;says b w 1;says b v 9;says b u 9;says b t 1;");
+        Check.due("1 of 290", later.chance(0, 1), 3448);
+        Check.due("by 201", later.half(0, 1), -1);
         SnapWed exact = Check.in(TOWN + "says a w 1;says a v 1;says b w 1;");
         Check.due("just half", exact.half(0, 1), 1);
     }
@@ -676,6 +697,13 @@ public final class PromisesTest {
         SnapWed deaf = Check.in("place p;person a plain at p shy 0;person b deaf at p shy 0;likes a b 9;likes b a 9;");
         Check.due("the deaf are alone", deaf.matches(-1), 1);
         Check.due("the deaf are alone", deaf.matches(0), 0);
+        String three = "place p;person a plain at p shy 0;person b plain at p shy 0;person c plain at p shy 0;";
+        SnapWed even = Check.in(three + "likes a b 2;likes b a 5;likes a c 2;likes c a 5;");
+        Check.due("a likes both as much: with b, with c", even.matches(-1), 2);
+        Check.due("the first has c alone", even.matches(2), 2);
+        SnapWed even2 = Check.in(three + "likes b c 2;likes c b 5;likes a c 5;likes c a 5;");
+        Check.due("c likes both as much: with a, with b", even2.matches(-1), 2);
+        Check.due("the first has a alone", even2.matches(0), 0);
         SnapWed one = Check.in("place p;person a plain at p shy 0;person b plain at p shy 0;likes a b 9;");
         Check.due("both must like more", one.matches(-1), 2);
     }
@@ -897,6 +925,13 @@ public final class PromisesTest {
         }
         Check.due("edges", x.generations(9999, 60, 0), 1);
         Check.due("edges", x.generations(0, 60, 2), 1);
+        // Seed 1 by 3: 16838 is 2, 5758 is 1: a says u, b says v; by 4 and 1: 10113 is 1, 17515 is 0.
+        SnapWed sums = Check.in("word w;word v;word u;place p;person a plain at p shy 0;person b plain at p shy 0;"
+                + "says a w 1;says a v 1;says a u 1;says b w 1;says b v 2;person c plain at p shy 0;"
+                + "person d plain at p shy 0;");
+        sums.say(2, 1);
+        sums.say(3, 2);
+        Check.due("a with d, b with c", sums.generations(1, 1, 0), 1 << 2 | 1 << 5);
         SnapWed hand = Check.in("word w;place p;person a plain at p shy 0;person b plain at p shy 0;says a w 1;");
         hand.say(1, 0);
         Check.due("who draws nothing says what he is to say", hand.generations(5, 1, 0), 1);
@@ -960,6 +995,15 @@ public final class PromisesTest {
         Check.due("back to it", x.mark(3, true), true);
         Check.due("moment", x.count(3), 2);
         Check.due("others are empty", x.mark(2, true), false);
+        x.mark(0, false);
+        x.moment();
+        x.mark(1, false);
+        x.moment();
+        Check.due("the first of some", x.mark(0, true), true);
+        Check.due("its moment", x.count(3), 2);
+        Check.due("the last of some", x.mark(1, true), true);
+        Check.due("its moment", x.count(3), 3);
+        Check.due("the one ahead of these", x.mark(3, true), true);
     }
 
     private static void count() {
