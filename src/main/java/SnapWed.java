@@ -517,23 +517,19 @@ public final class SnapWed {
                 next = signs[next] == ' ' || signs[next] == '\n' ? next + 1 : cut(next);
             }
             addToken(Token.END, length, 0);
-            at = 0;
-            showToken();
+            at = -1;
+            advance();
         }
 
         /** Stays at the end when it is there. */
         void advance() {
             if (at < size - 1) {
                 at++;
-                showToken();
+                Token shown = tokens[at];
+                token = shown == null ? Token.END : shown;
+                start = starts[at];
+                value = values[at];
             }
-        }
-
-        private void showToken() {
-            Token shown = tokens[at];
-            token = shown == null ? Token.END : shown;
-            start = starts[at];
-            value = values[at];
         }
 
         /** Where the token that begins at a place ends. */
@@ -1052,7 +1048,8 @@ public final class SnapWed {
                 law.add(Law.NOT);
             } else if (token == Token.OPEN) {
                 readJoined(law, Token.JOINS_TESTS, around + 1);
-                expect(Token.CLOSE);
+                blameIf(tape.token != Token.CLOSE, MISPLACED);
+                step();
             } else {
                 law.add(token == Token.NUMBER ? number : token.meaning);
             }
