@@ -1599,7 +1599,7 @@ public final class SnapWed {
             return true;
         }
 
-        /** Without bigamists what stays wed is a pairing, so that the pairings within the wed are all there is to try. */
+        /** Without bigamists what stays wed is a pairing, so that there are few ways to try. */
         int leastParted(Province land, Scene scene) {
             setPrices(land, scene);
             int best = scene.wed;
