@@ -189,7 +189,7 @@ public final class SnapWed {
         }
         agenda.judge(land, stage);
         if (what == 2) {
-            return stage.wed;
+            return Integer.bitCount(stage.wed);
         }
         return what == 0 ? agenda.firstImpossible : agenda.firstBigamy;
     }
@@ -336,7 +336,7 @@ public final class SnapWed {
         if (what == 2) {
             return weddingMoments;
         }
-        return what == 0 ? stage.wed & ~now.wed : stage.bigamistBits();
+        return Integer.bitCount(what == 0 ? stage.wed & ~now.wed : stage.bigamistBits());
     }
 
     public boolean mark(int mark, boolean back) {

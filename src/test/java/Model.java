@@ -720,7 +720,7 @@ final class Model {
                 cannot = i;
             }
         }
-        return what == 0 ? cannot : what == 1 ? bigamy : bits(s.wed);
+        return what == 0 ? cannot : what == 1 ? bigamy : s.wed.size();
     }
 
     int bigamists() {
@@ -1113,10 +1113,10 @@ final class Model {
                 s.at[p] = draw(land.places.size());
             }
             int fresh = pass(s);
-            pairs |= fresh;
+            pairs += Integer.bitCount(fresh);
             times += fresh != 0 ? 1 : 0;
         }
-        return what == 0 ? pairs : what == 1 ? bigamistsOf(s) : times;
+        return what == 0 ? pairs : what == 1 ? Integer.bitCount(bigamistsOf(s)) : times;
     }
 
     boolean mark(int m, boolean back) {
