@@ -22,6 +22,10 @@ final class Check {
         due(call, got ? 1L : 0L, want ? 1L : 0L);
     }
 
+    static int wrong() {
+        return wrong;
+    }
+
     static boolean allIsWell() {
         return wrong == 0;
     }
